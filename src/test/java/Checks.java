@@ -1,0 +1,35 @@
+/** Counts the answers that are not as due, and ends a test with exit code 1 if there was one. */
+final class Checks {
+    private static final int MOST_TOLD = 40;
+    private int done;
+    private int wrong;
+
+    void due(String call, long got, long want) {
+        done++;
+        if (got != want) {
+            fail(call + " answered " + got + ", due is " + want);
+        }
+    }
+
+    void holds(String what, boolean does) {
+        done++;
+        if (!does) {
+            fail("does not hold: " + what);
+        }
+    }
+
+    private void fail(String text) {
+        wrong++;
+        if (wrong <= MOST_TOLD) {
+            System.out.println(text);
+        }
+    }
+
+    void end() {
+        System.out.println(wrong == 0 ? done + " answers are as due"
+            : wrong + " of " + done + " answers are not as due");
+        if (wrong != 0) {
+            System.exit(1);
+        }
+    }
+}

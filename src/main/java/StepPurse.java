@@ -19,8 +19,11 @@ public final class StepPurse {
     private final Structure[] structures;
     private final Book book;
     private int made;
+    /** Entries and numbers in all structures. */
     private int entries;
+    /** How many ever came: it tells which of two entries in a heap is the older one. */
     private int came;
+    /** What is FOUND. */
     private long latestKey;
     private int latestValue;
 
@@ -32,9 +35,6 @@ public final class StepPurse {
     public int make(int kind) {
         if (kind < PLAIN || kind > GAPPED) {
             return NONE;
-        }
-        if (made >= MOST_STRUCTURES) {
-            return FULL;
         }
         return enrol(newStructure(kind));
     }
@@ -307,7 +307,7 @@ public final class StepPurse {
     // ---- which structure a number means ----
 
     private Structure structureAt(int s) {
-        return s < 0 || s >= made || s >= structures.length ? null : structures[s];
+        return s < 0 || s >= structures.length ? null : structures[s];
     }
 
     private Tree treeAt(int s) {
@@ -365,13 +365,14 @@ public final class StepPurse {
         int price = x.bringingPrice();
         int before = x.steps;
         int answer = x.take(key, value, came);
-        // Entries of trees and rows are numbered along: only the order of the heaps' own counts.
+        // Those of trees and rows are numbered along: of the heaps' own only the order counts.
         came++;
         entries++;
         closeAct(s, x, price, before);
         return answer;
     }
 
+    /** An act of below, or of above if it is a greater key that is wanted. */
     private int seekBeside(int s, long key, boolean greater) {
         Tree tree = treeAt(s);
         if (tree == null) {
@@ -420,6 +421,7 @@ public final class StepPurse {
         return 24 * lg(nodes + 1) + 24;
     }
 
+    /** An empty heap counts as one node: lg answers 0 for both. */
     private static int heapPrice(int a, int b) {
         return 2 * (lg(a) + lg(b) + 2);
     }
@@ -462,20 +464,26 @@ public final class StepPurse {
         return walk;
     }
 
+    private static int sizeOf(Node top) {
+        return top == null ? 0 : top.size;
+    }
+
+    /** Counts them, since PLAIN trees keep no sizes. */
     private static int nodesFrom(Node top) {
         Walk walk = new Walk(top);
-        int nodes = 0;
-        do {
+        walk.advance();
+        int nodes = 1;
+        while (nodes < MOST_ENTRIES && walk.isBelowStart()) {
             nodes++;
             walk.advance();
-        } while (walk.isBelowStart());
+        }
         return nodes;
     }
 
     private static int farthest(Node root) {
         Walk walk = new Walk(root);
         int most = 0;
-        while (walk.node != null) {
+        for (int k = 0; k < MOST_ENTRIES && walk.node != null; k++) {
             most = Math.max(most, walk.depth);
             walk.advance();
         }
@@ -646,9 +654,7 @@ public final class StepPurse {
 
         void addValue(int value) {
             Value added = new Value(value);
-            if (lastOne == null) {
-                firstOne = added;
-            } else {
+            if (lastOne != null) {
                 lastOne.next = added;
             }
             lastOne = added;
@@ -659,9 +665,6 @@ public final class StepPurse {
             if (firstOne != null) {
                 firstOne = firstOne.next;
                 values--;
-            }
-            if (firstOne == null) {
-                lastOne = null;
             }
         }
 
@@ -695,14 +698,10 @@ public final class StepPurse {
         }
     }
 
-    private static int sizeOf(Node top) {
-        return top == null ? 0 : top.size;
-    }
-
     /** What both kinds of trees do alike. */
     private abstract static class Tree extends Structure {
         int values;
-        /** Where the latest way to a key ended; none if the tree has changed its shape since. */
+        /** Where the latest way to a key ended; none if nodes were moved or have gone since. */
         Node last;
         /** The nearest node on that way from which it went left. */
         Node turnedLeftAt;
@@ -716,8 +715,8 @@ public final class StepPurse {
         /** What is done to the last node to which one came, before anything else. */
         abstract void settle(Node arrived);
 
-        /** A new leaf hangs in the tree. */
-        abstract void noteGrowth(Node leaf);
+        /** A new leaf hangs from a node. */
+        abstract void noteGrowth(Node parent);
 
         /** A node to which one has just gone, and which has settled, leaves the tree. */
         abstract void loseNode(Node node);
@@ -796,7 +795,7 @@ public final class StepPurse {
         }
 
         private void goTo(long key) {
-            if (!isOnTheWayTo(key)) {
+            if (!leadsThroughLast(key)) {
                 last = root;
                 turnedLeftAt = null;
                 depth = 0;
@@ -810,15 +809,15 @@ public final class StepPurse {
         }
 
         /**
-         * Whether the way from the root to a key leads through the last node. No whole number lies
-         * between neighbouring keys, so the way to the next key is the same as far as that node,
-         * unless the key is met earlier. This spares rise in a PLAIN tree most of the walking.
+         * Whether the way from the root to a key leads through the last node. It does if the key
+         * lies between that node's and the one from which the way there last went left: then all
+         * nodes on that way send one on as before. This spares rise in a PLAIN tree most goings.
          */
-        private boolean isOnTheWayTo(long key) {
-            if (last == null || key == Long.MIN_VALUE || last.key != key - 1) {
+        private boolean leadsThroughLast(long key) {
+            if (last == null || key < last.key) {
                 return false;
             }
-            return turnedLeftAt == null || turnedLeftAt.key > key;
+            return turnedLeftAt == null || key < turnedLeftAt.key;
         }
 
         private void comeTo(Node child) {
@@ -833,17 +832,15 @@ public final class StepPurse {
             held++;
             if (last == null) {
                 root = leaf;
-                last = leaf;
-            } else {
-                if (leaf.key < last.key) {
-                    last.hangLeft(leaf);
-                } else {
-                    last.hangRight(leaf);
-                }
-                comeTo(leaf);
-                steps++;
+                return;
             }
-            noteGrowth(leaf);
+            if (leaf.key < last.key) {
+                last.hangLeft(leaf);
+            } else {
+                last.hangRight(leaf);
+            }
+            steps++;
+            noteGrowth(last);
         }
     }
 
@@ -860,7 +857,7 @@ public final class StepPurse {
             // It stays where it is.
         }
 
-        void noteGrowth(Node leaf) {
+        void noteGrowth(Node parent) {
             // No sizes are kept.
         }
 
@@ -925,11 +922,11 @@ public final class StepPurse {
             root = arrived;
         }
 
-        void noteGrowth(Node leaf) {
-            Node parent = leaf.up;
-            while (parent != null) {
-                resize(parent, parent.size + 1);
-                parent = parent.up;
+        void noteGrowth(Node parent) {
+            Node grown = parent;
+            while (grown != null) {
+                resize(grown, grown.size + 1);
+                grown = grown.up;
             }
         }
 
@@ -939,9 +936,6 @@ public final class StepPurse {
             lgSum -= lg(node.size);
             makeRoot(left == null ? right : left);
             if (left != null) {
-                if (right != null) {
-                    right.up = null;
-                }
                 settle(goFarRight(left));
                 hangRightOfRoot(right);
             }
@@ -1000,7 +994,7 @@ public final class StepPurse {
 
         private void countNodes() {
             Walk walk = new Walk(root);
-            while (walk.node != null) {
+            while (held < MOST_ENTRIES && walk.node != null) {
                 held++;
                 values += walk.node.values;
                 lgSum += lg(walk.node.size);
@@ -1010,7 +1004,6 @@ public final class StepPurse {
 
         private void loseAll() {
             root = null;
-            last = null;
             held = 0;
             values = 0;
             lgSum = 0;
@@ -1147,7 +1140,6 @@ public final class StepPurse {
         private void putOver(Node winner, Node other) {
             heavy -= heavyAt(winner);
             winner.right = winner.left;
-            winner.left = null;
             winner.size += other.size;
             heavy += heavyAt(winner);
         }
@@ -1214,12 +1206,12 @@ public final class StepPurse {
         }
 
         private void copyInto(int count) {
-            long[] wider = new long[Math.max(count, held)];
+            long[] others = new long[Math.max(count, held)];
             for (int i = 0; i < held && i < places.length; i++) {
-                wider[i] = places[i];
+                others[i] = places[i];
                 steps++;
             }
-            places = wider;
+            places = others;
         }
     }
 }

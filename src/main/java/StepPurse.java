@@ -905,7 +905,8 @@ public final class StepPurse {
                 return;
             }
             Node parent = arrived.up;
-            while (parent != null) {
+            // Each turn lifts it, so it has no more parents to pass than there are nodes.
+            for (int turns = 0; turns < MOST_ENTRIES && parent != null; turns++) {
                 Node grandparent = parent.up;
                 steps++;
                 if (grandparent == null) {

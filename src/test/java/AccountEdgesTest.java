@@ -308,6 +308,8 @@ public final class AccountEdgesTest extends Bench {
         due("row 0", x.ledger(0, 1), 3);
         due("the last row", x.ledger(MOST - 1, 0), 1);
         due("none behind it", x.ledger(MOST, 0), NONE);
+        due("all of them", x.spread(MOST), 0);
+        due("one more", x.spread(MOST + 1), NONE);
     }
 
     private static void foundAtFirst() {

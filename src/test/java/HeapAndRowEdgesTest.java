@@ -152,6 +152,17 @@ public final class HeapAndRowEdgesTest extends Bench {
             due("of three", x.pop(0), 2);
             act("of three", x, 0, 4, 1, 0);
         }
+        Counted x = of(SKEW);
+        x.rise(0, 1, 5);
+        keys("of five", x, 0, 1, 3, 5, 2, 4);
+        x.pop(0);
+        keys("what hung right is first", x, 0, 2, 3, 5, 4);
+        x.pop(0);
+        keys("what hung left is first", x, 0, 3, 4, 5);
+        x.pop(0);
+        keys("what hung left is first", x, 0, 4, 5);
+        x.pop(0);
+        keys("nothing hung right", x, 0, 5);
     }
 
     private static void meldEmptiesTheSecond() {

@@ -10,6 +10,8 @@ public final class AgainstReferenceTest {
     private static final long[] FAR_KEYS = {Long.MIN_VALUE, Long.MIN_VALUE + 1, Long.MAX_VALUE,
         Long.MAX_VALUE - 1, 0, -1, 1, Integer.MAX_VALUE, Integer.MIN_VALUE};
 
+    private static boolean cameToTheEnd;
+
     private final Checks checks = new Checks();
     private Random random;
     private Counted x;
@@ -23,6 +25,10 @@ public final class AgainstReferenceTest {
         Thread thread = new Thread(null, AgainstReferenceTest::all, "runs", 1L << 30);
         thread.start();
         thread.join();
+        // What a thread throws does not end the program with 1 by itself.
+        if (!cameToTheEnd) {
+            System.exit(1);
+        }
     }
 
     private static void all() {
@@ -34,6 +40,7 @@ public final class AgainstReferenceTest {
             test.fullRun(seed % 6, seed);
         }
         test.checks.end();
+        cameToTheEnd = true;
     }
 
     private void begin(long seed, String name) {

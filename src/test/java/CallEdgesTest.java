@@ -93,6 +93,9 @@ public final class CallEdgesTest extends Bench {
             due("split", x.split(0, 0), i);
         }
         due("filled by split", x.make(PLAIN), FULL);
+        x = of(DOUBLING);
+        fillLedger(x, 0, 0);
+        due("it is no act: a full LEDGER has room for it", x.make(TURNING), 1);
     }
 
     private static void insertAnswers() {

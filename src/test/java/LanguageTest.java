@@ -24,7 +24,12 @@ public final class LanguageTest {
         "int count(int)");
     private static final List<String> FORBIDDEN = List.of("throw", "throws", "try", "catch",
         "synchronized", "assert", "import", "package", "new Object", "System", "Random", "Thread",
-        "->", "::", "\\.equals", "hashCode", "toString", "Exact", "Optional", "Map", "Stream");
+        "->", "::", "\\.equals", "hashCode", "toString", "Exact", "Optional", "Map", "Stream",
+        "java\\.", "javax\\.", "Double", "Float", "native", "strictfp", "volatile", "transient");
+    /** The library's functions that the class may call; rule 4 allows more. */
+    private static final Set<String> LIBRARY = Set.of("Math.max", "Math.min", "Math.abs");
+    private static final Set<Class<?>> STATIC_TYPES = Set.of(int.class, long.class, boolean.class,
+        char.class, String.class, int[].class, long[].class, char[].class, byte[].class);
 
     public static void main(String[] args) throws Exception {
         face();
@@ -64,9 +69,7 @@ public final class LanguageTest {
     private static void constants() throws IllegalAccessException {
         Set<String> seen = new TreeSet<>();
         for (Field f : StepPurse.class.getDeclaredFields()) {
-            boolean isStatic = Modifier.isStatic(f.getModifiers());
-            CHECKS.holds("static fields are final: " + f,
-                !isStatic || Modifier.isFinal(f.getModifiers()));
+            staticIsConstant(f);
             if (Modifier.isPublic(f.getModifiers())) {
                 seen.add(f.getName() + f.getInt(null));
             } else {
@@ -75,6 +78,12 @@ public final class LanguageTest {
         }
         CHECKS.holds("the document's constants: " + seen,
             seen.equals(Set.of("NONE-1", "KIND-2", "EMPTY-3", "ORDER-4", "FULL-5")));
+    }
+
+    private static void staticIsConstant(Field f) {
+        boolean constant = Modifier.isFinal(f.getModifiers()) && STATIC_TYPES.contains(f.getType());
+        CHECKS.holds("static fields are constants: " + f,
+            constant || !Modifier.isStatic(f.getModifiers()));
     }
 
     private static void nested() {
@@ -92,6 +101,9 @@ public final class LanguageTest {
             CHECKS.holds("static and private: " + c, Modifier.isStatic(c.getModifiers())
                 && Modifier.isPrivate(c.getModifiers()));
             CHECKS.holds("at most some twenty fields: " + c, c.getDeclaredFields().length <= 20);
+            for (Field f : c.getDeclaredFields()) {
+                staticIsConstant(f);
+            }
             for (Method m : c.getDeclaredMethods()) {
                 CHECKS.holds("no public name: " + m, !names.contains(m.getName()));
                 CHECKS.holds("at most seven parameters: " + m, m.getParameterCount() <= 7);
@@ -115,6 +127,10 @@ public final class LanguageTest {
             boolean isName = word.matches("[A-Za-z ]+");
             Matcher m = Pattern.compile(isName ? "\\b" + word + "\\b" : word).matcher(code);
             CHECKS.holds("not in the source: " + word, !m.find());
+        }
+        Matcher call = Pattern.compile("\\b[A-Z]\\w*\\.\\w+").matcher(code);
+        while (call.find()) {
+            CHECKS.holds("of the library: " + call.group(), LIBRARY.contains(call.group()));
         }
         CHECKS.holds("characters 0 to 255", text.chars().allMatch(c -> c < 256));
         methodsAreShort(code);
